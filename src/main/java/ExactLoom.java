@@ -24,6 +24,7 @@ public final class ExactLoom {
     private static final int LONG = 4;
 
     private static final int LINE_END = 10;
+    private static final int NO_SIGN = 0;
 
     private final Row waiting;
     private final Row typed;
@@ -469,7 +470,6 @@ public final class ExactLoom {
     /** Writes the text of a block. */
     private static final class Scribe {
         private static final int DIGITS_MOST = 19;
-        private static final int NO_SIGN = 0;
 
         private final Row text;
         private final Row digits;
@@ -484,7 +484,7 @@ public final class ExactLoom {
         void write(Block block) {
             text.empty();
             word("block");
-            number(block.bytes.cell(1));
+            number(NO_SIGN, block.bytes.cell(1));
             endLine();
             for (int part = 0; part < PARTS; part++) {
                 int many = block.howMany(part);
@@ -514,7 +514,7 @@ public final class ExactLoom {
             switch (bytes.cell(place)) {
                 case INT:
                     word("int");
-                    number(bytes.signedAt(place + 1, 4));
+                    number(NO_SIGN, bytes.signedAt(place + 1, 4));
                     break;
                 case NAME:
                     word("name");
@@ -522,33 +522,33 @@ public final class ExactLoom {
                     break;
                 case PAIR:
                     word("pair");
-                    number(bytes.cell(place + 1));
-                    number(bytes.cell(place + 2));
+                    number(NO_SIGN, bytes.cell(place + 1));
+                    number(NO_SIGN, bytes.cell(place + 2));
                     break;
                 default:
                     word("long");
-                    number(bytes.signedAt(place + 1, 8));
+                    number(NO_SIGN, bytes.signedAt(place + 1, 8));
                     break;
             }
         }
 
         private void writeField(Row bytes, int place) {
             word("field");
-            number(bytes.cell(place));
-            number(bytes.cell(place + 1));
+            number(NO_SIGN, bytes.cell(place));
+            number(NO_SIGN, bytes.cell(place + 1));
         }
 
         private void writeAttachment(Row bytes, int place) {
             word("attach");
-            number(bytes.cell(place));
+            number(NO_SIGN, bytes.cell(place));
             bareBytes(bytes, place + 2, bytes.cell(place + 1));
         }
 
         private void writeCode(Block block, int place) {
             Row bytes = block.bytes;
             word("code");
-            number(bytes.cell(place));
-            number(bytes.cell(place + 1));
+            number(NO_SIGN, bytes.cell(place));
+            number(NO_SIGN, bytes.cell(place + 1));
             word("{");
             endLine();
             int first = place + Block.CODE_HEAD;
@@ -571,7 +571,7 @@ public final class ExactLoom {
         private void writePlace(Row bytes, int first, int i) {
             int line = marks.lineAt(i);
             if (line != NONE) {
-                signed('@', line);
+                number('@', line);
                 endLine();
             }
             if (marks.isStart(i)) {
@@ -585,9 +585,9 @@ public final class ExactLoom {
             int instruction = bytes.cell(place);
             word(Instructions.wordOf(instruction));
             if (instruction == Instructions.PUSH) {
-                number(bytes.signedAt(place + 1, 1));
+                number(NO_SIGN, bytes.signedAt(place + 1, 1));
             } else if (Instructions.hasByte(instruction)) {
-                number(bytes.cell(place + 1));
+                number(NO_SIGN, bytes.cell(place + 1));
             }
             int many = Instructions.distancesAt(bytes, place);
             int cell = place + Instructions.headOf(instruction);
@@ -595,9 +595,9 @@ public final class ExactLoom {
                 int distance = (int) bytes.signedAt(cell + 2 * i, 2);
                 int line = marks.lineAt(origin + distance);
                 if (line != NONE) {
-                    signed('@', line);
+                    number('@', line);
                 } else {
-                    signed(distance < 0 ? NO_SIGN : '+', distance);
+                    number(distance < 0 ? NO_SIGN : '+', distance);
                 }
             }
         }
@@ -614,11 +614,7 @@ public final class ExactLoom {
             text.append(' ');
         }
 
-        private void number(long value) {
-            signed(NO_SIGN, value);
-        }
-
-        private void signed(int sign, long value) {
+        private void number(int sign, long value) {
             if (sign != NO_SIGN) {
                 text.append(sign);
             }
@@ -678,8 +674,6 @@ public final class ExactLoom {
 
     /** Goes through the words of a text. */
     private static final class Words {
-        private static final int NO_SIGN = 0;
-
         private int[] letters;
         private int used;
         private int start;

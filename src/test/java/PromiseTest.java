@@ -355,7 +355,7 @@ public final class PromiseTest {
             77, 1, 0, 0, 1, 0, 0, 14, 1, 128, 1, 127, 1, 0, 2, 0, 2, 255, 8, 255, 10, 0, 0);
         made("block 1 code 0 0 { jump +32767 zero -32768 jump -1 zero +0 }",
             77, 1, 0, 0, 1, 0, 0, 12, 6, 127, 255, 7, 128, 0, 6, 255, 255, 7, 0, 0, 0);
-        for (String bad : new String[] {"256", "-1", "-0", "00", "01", "+1", "1x", "", "x1", "0x1", "1.", "--1", "-",
+        for (String bad : new String[] {"256", "-1", "-0", "00", "01", "+1", "1x", "1:", "1/", "", "x1", "0x1", "1.", "--1", "-",
             "4294967296", "18446744073709551616", "99999999999999999999999999", "@0", "\"1\"", "a"}) {
             faulty("block ~" + bad);
             faulty("block 1 pair ~" + bad);
@@ -395,7 +395,7 @@ public final class PromiseTest {
         made("block 1 name \"!~\" name \"x00\" name \"}\" name \"'\"",
             77, 1, 4, 2, 2, 33, 126, 2, 3, 120, 48, 48, 2, 1, 125, 2, 1, 39, 0, 0, 0);
         made("block 1 name x20 name x22 name x227f", 77, 1, 3, 2, 1, 32, 2, 1, 34, 2, 2, 34, 127, 0, 0, 0);
-        for (String bad : new String[] {"\"", "\"\"", "\"\"\"", "\"a", "a\"", "\"a\"b\"", "\"a\"b", "\"a\"\"", "a", "'a'",
+        for (String bad : new String[] {"\"", "\"\"", "\"\"\"", "\"a", "a\"", "\"ab", "ab\"", "\"a\"b\"", "\"a\"b", "\"a\"\"", "a", "'a'",
             "\"a b\"", "\"a\nb\"", "X00", "", "0"}) {
             faulty("block 1 name ~" + bad);
         }
@@ -642,6 +642,8 @@ public final class PromiseTest {
             77, 0, 0, 0, 1, 0, 0, 18, 7, 0, 1, 7, 0, 2, 7, 255, 255, 7, 255, 249, 7, 127, 255, 7, 128, 0, 0);
         textIs("block 0\ncode 0 0 {\n@0\nnop\n@1\nzero @0\n@2\npick 4 @0 @2 -1 @1\n}\n",
             77, 0, 0, 0, 1, 0, 0, 14, 0, 7, 255, 255, 10, 4, 255, 252, 0, 0, 255, 255, 255, 253, 0);
+        textIs("block 0\ncode 0 0 {\npick 3 @0 @1 @2\n@0\nnop\n@1\nnop\n@2\nnop\n}\n",
+            77, 0, 0, 0, 1, 0, 0, 11, 10, 3, 0, 8, 0, 9, 0, 10, 0, 0, 0, 0);
         textIs("block 0\ncode 0 0 {\npick 2 +1 +6\n}\n",
             77, 0, 0, 0, 1, 0, 0, 6, 10, 2, 0, 1, 0, 6, 0);
         textIs("block 0\ncode 0 0 {\n@0\nnop\njump @0\n}\ncode 0 0 {\nnop\n@0\nnop\njump @0\n}\n",
