@@ -10,7 +10,7 @@ public final class ModelTest {
     private static final String[] WORDS = {
         "nop", "push", "load", "add", "sub", "dup", "jump", "zero", "call", "ret", "pick"};
 
-    private static int wrong = 0;
+    private static final Checks CHECKS = new Checks();
     private static int goodRows = 0;
     private static int faultyRows = 0;
     private static int goodTexts = 0;
@@ -18,40 +18,30 @@ public final class ModelTest {
 
     public static void main(String[] args) {
         Random random = new Random(20261115);
-        for (int i = 0; i < 60000; i++) {
-            ExactLoom x = new ExactLoom();
+        for (int i = 0; i < 40000; i++) {
+            Loom x = new Loom();
             int[] block = Model.START;
             for (int k = 0; k < 4; k++) {
-                block = random.nextBoolean() ? tryBytes(x, block, someBytes(random)) : tryText(x, block, someText(random));
+                block = random.nextBoolean()
+                    ? tryBytes(x, block, someBytes(random))
+                    : tryText(x, block, someText(random));
             }
         }
-        System.out.println(goodRows + " good and " + faultyRows + " faulty rows, " + goodTexts + " good and " + faultyTexts
-            + " faulty texts; " + wrong + " wrong");
-        if (wrong != 0 || goodRows < 9000 || faultyRows < 9000 || goodTexts < 9000 || faultyTexts < 9000) {
-            System.exit(1);
-        }
+        String sorts = goodRows + " good and " + faultyRows + " faulty rows, " + goodTexts + " good and " + faultyTexts
+            + " faulty texts";
+        int fewest = Math.min(Math.min(goodRows, faultyRows), Math.min(goodTexts, faultyTexts));
+        due("whether there were enough: " + sorts, fewest > 9000, true);
+        System.out.println(sorts);
+        CHECKS.end();
     }
 
     private static void due(String what, Object got, Object want) {
-        if (!got.equals(want)) {
-            wrong++;
-            if (wrong < 40) {
-                System.out.println(what + " answered " + got + ", due is " + want);
-            }
-        }
+        CHECKS.due(what, got, want);
     }
 
-    private static int[] tryBytes(ExactLoom x, int[] before, int[] bytes) {
-        for (int i = 0; i < bytes.length;) {
-            int n = Math.min(4, bytes.length - i);
-            int word = 0;
-            for (int k = 0; k < n; k++) {
-                word = word << 8 | bytes[i + k];
-            }
-            due("put", x.put(word, n), true);
-            i += n;
-        }
+    private static int[] tryBytes(Loom x, int[] before, int[] bytes) {
         String what = "bytes " + Arrays.toString(bytes);
+        due("put of " + what, x.putAll(bytes), true);
         int got = x.take();
         int[] after;
         try {
@@ -68,11 +58,9 @@ public final class ModelTest {
         return after;
     }
 
-    private static int[] tryText(ExactLoom x, int[] before, String text) {
-        for (char c : text.toCharArray()) {
-            due("type", x.type(c, 1), true);
-        }
+    private static int[] tryText(Loom x, int[] before, String text) {
         String what = "text " + text;
+        due("type of " + what, x.typeAll(text), true);
         int got = x.make();
         int[] after;
         try {
@@ -88,17 +76,13 @@ public final class ModelTest {
         return after;
     }
 
-    private static void compare(String what, ExactLoom x, int[] block) {
+    private static void compare(String what, Loom x, int[] block) {
         String text = Model.textOf(block);
         due(what + ": size()", x.size(), block.length);
         due(what + ": length()", x.length(), text.length());
         due(what + ": exact()", x.exact(), Arrays.equals(new Model(text).block(), block));
-        for (int i = 0; i <= block.length; i++) {
-            due(what + ": byteAt(" + i + ")", x.byteAt(i), i < block.length ? block[i] : -1);
-        }
-        for (int i = 0; i <= text.length(); i++) {
-            due(what + ": at(" + i + ")", x.at(i), i < text.length() ? (int) text.charAt(i) : -1);
-        }
+        due(what + ": bytes", x.bytes(), Loom.joined(block));
+        due(what + ": text", x.text(), text);
         String lines = "\n" + text;
         due(what + ": count(0)", x.count(0), times(lines, "\n(int|name|pair|long) "));
         due(what + ": count(1)", x.count(1), times(lines, "\nfield "));
@@ -133,9 +117,8 @@ public final class ModelTest {
         while (random.nextInt(8) == 0 && row.size() < 124) {
             row.add(random.nextInt(4));
         }
-        int[] bytes = new int[Math.min(row.size(), 124)];
-        Arrays.setAll(bytes, Arrays.asList(row.toArray(new Integer[0]))::get);
-        return bytes;
+        int[] bytes = row.stream().mapToInt(b -> b).limit(124).toArray();
+        return Model.leavesOpen(bytes) ? Arrays.copyOf(bytes, 120) : bytes;
     }
 
     private static List<Integer> someBlock(Random random, int most) {
@@ -217,12 +200,14 @@ public final class ModelTest {
                 case 2: words.add(i, someWord(random)); break;
                 case 3: words.add(i, words.get(random.nextInt(words.size()))); break;
                 case 4: words = new ArrayList<>(words.subList(0, i)); break;
-                default: words.set(i, words.get(i).substring(random.nextInt(2)) + "0}@a\"".charAt(random.nextInt(5))); break;
+                default:
+                    words.set(i, words.get(i).substring(random.nextInt(2)) + "0}@a\"".charAt(random.nextInt(5)));
+                    break;
             }
         }
         StringBuilder out = new StringBuilder();
         for (String word : words) {
-            out.append(" ".repeat(random.nextInt(9) == 0 ? 1 : 0)).append(word).append(random.nextInt(5) == 0 ? '\n' : ' ');
+            out.append(random.nextInt(9) == 0 ? " " : "").append(word).append(random.nextInt(5) == 0 ? '\n' : ' ');
         }
         String all = random.nextBoolean() ? out.toString().trim() : out.toString();
         return all.substring(0, Math.min(200, all.length()));
@@ -233,9 +218,9 @@ public final class ModelTest {
         for (int i = 10 + random.nextInt(3); i > 0; i--) {
             text.append(" long ").append(random.nextInt(10));
         }
-        String[] items = {" int 1", " name \"abcd\"", " name x", " name x0102", " pair 1 2", " field 1 2", " field 3 4",
-            " code 1 2 { nop jump @0 @0 }", " code 1 2 { pick 2 +1 -1 }", " code 1 2 { @0 }", " code 1 2 { raw x0102 }",
-            " code 1 2 { push -1 nop nop call 1 }", " attach 1 x", " attach 1 x0102"};
+        String[] items = {" int 1", " name \"abcd\"", " name x", " name x0102", " pair 1 2", " field 1 2",
+            " field 3 4", " code 1 2 { nop jump @0 @0 }", " code 1 2 { pick 2 +1 -1 }", " code 1 2 { @0 }",
+            " code 1 2 { raw x0102 }", " code 1 2 { push -1 nop nop call 1 }", " attach 1 x", " attach 1 x0102"};
         int next = 0;
         for (int i = 0; i < 8; i++) {
             next = Math.min(items.length - 1, next + random.nextInt(3));
@@ -245,11 +230,11 @@ public final class ModelTest {
     }
 
     private static String someWord(Random random) {
-        String[] likely = {"block", "int", "name", "pair", "long", "field", "code", "attach", "{", "}", "raw", "x", "x0a",
-            "x0", "\"a\"", "\"\"", "@0", "@1", "@2", "@3", "@01", "@", "@99999999999999999999", "+0", "-0", "-1", "+1", "0",
-            "1", "2", "127", "128", "-128", "-129", "255", "256", "-32768", "+32767", "+32768", "-32769", "2147483647",
-            "2147483648", "-2147483648", "9223372036854775807", "9223372036854775808", "-9223372036854775808",
-            "-9223372036854775809"};
+        String[] likely = {"block", "int", "name", "pair", "long", "field", "code", "attach", "{", "}", "raw", "x",
+            "x0a", "x0", "\"a\"", "\"\"", "@0", "@1", "@2", "@3", "@01", "@", "@99999999999999999999", "+0", "-0",
+            "-1", "+1", "0", "1", "2", "127", "128", "-128", "-129", "255", "256", "-32768", "+32767", "+32768",
+            "-32769", "2147483647", "2147483648", "-2147483648", "9223372036854775807", "9223372036854775808",
+            "-9223372036854775808", "-9223372036854775809"};
         int i = random.nextInt(likely.length + WORDS.length);
         return i < likely.length ? likely[i] : WORDS[i - likely.length];
     }
@@ -271,8 +256,8 @@ public final class ModelTest {
         // -- from bytes to a text
 
         private static int next(int[] bytes, int[] i) {
-            if (i[0] >= Math.min(120, bytes.length)) {
-                throw new Fault(i[0]);
+            if (i[0] >= bytes.length) {
+                throw new Fault(bytes.length);
             }
             return bytes[i[0]++];
         }
@@ -285,7 +270,29 @@ public final class ModelTest {
             return some;
         }
 
+        /** Whether the row has both too many bytes for a block and too few for what it announces. */
+        static boolean leavesOpen(int[] bytes) {
+            try {
+                walk(bytes);
+                return false;
+            } catch (Fault fault) {
+                return bytes.length > 120 && fault.place == bytes.length;
+            }
+        }
+
         static String textOf(int[] bytes) {
+            try {
+                String text = walk(bytes);
+                if (bytes.length > 120) {
+                    throw new Fault(120);
+                }
+                return text;
+            } catch (Fault fault) {
+                throw new Fault(Math.min(120, fault.place));
+            }
+        }
+
+        private static String walk(int[] bytes) {
             StringBuilder text = new StringBuilder();
             int[] i = {0};
             if (next(bytes, i) != 77) {

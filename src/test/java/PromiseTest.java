@@ -5,9 +5,7 @@ import java.util.TreeSet;
 
 /** Checks each promise of the document: ordinary inputs, the edges it names, and wrong inputs. */
 public final class PromiseTest {
-    private static int wrong = 0;
-    private static int checked = 0;
-    private static String promise = "";
+    private static final Checks CHECKS = new Checks();
 
     public static void main(String[] args) {
         theFace();
@@ -32,83 +30,48 @@ public final class PromiseTest {
         clear();
         exact();
         oddArguments();
-        System.out.println(checked + " checks, " + wrong + " wrong");
-        if (wrong != 0) {
-            System.exit(1);
-        }
+        CHECKS.end();
     }
 
     // ---- what the checks are made of
 
     private static void due(String what, Object got, Object want) {
-        checked++;
-        if (!got.equals(want)) {
-            wrong++;
-            System.out.println(promise + ": " + what + " answered " + got + ", due is " + want);
-        }
+        CHECKS.due(what, got, want);
     }
 
-    private static ExactLoom withBytes(ExactLoom x, int... bytes) {
-        for (int b : bytes) {
-            due("put(" + b + ", 1)", x.put(b, 1), true);
-        }
+    private static Loom withBytes(Loom x, int... bytes) {
+        due("put of " + Loom.joined(bytes), x.putAll(bytes), true);
         return x;
     }
 
-    private static ExactLoom withText(ExactLoom x, String text) {
-        for (int i = 0; i < text.length(); i++) {
-            due("type(" + (int) text.charAt(i) + ", 1)", x.type(text.charAt(i), 1), true);
-        }
+    private static Loom withText(Loom x, String text) {
+        due("type of " + text, x.typeAll(text), true);
         return x;
-    }
-
-    private static String textOf(ExactLoom x) {
-        StringBuilder text = new StringBuilder();
-        for (int i = 0; x.at(i) != -1; i++) {
-            text.append((char) x.at(i));
-        }
-        return text.toString();
-    }
-
-    private static String bytesOf(ExactLoom x) {
-        StringBuilder bytes = new StringBuilder();
-        for (int i = 0; x.byteAt(i) != -1; i++) {
-            bytes.append(i == 0 ? "" : " ").append(x.byteAt(i));
-        }
-        return bytes.toString();
-    }
-
-    private static String joined(int... bytes) {
-        StringBuilder all = new StringBuilder();
-        for (int i = 0; i < bytes.length; i++) {
-            all.append(i == 0 ? "" : " ").append(bytes[i]);
-        }
-        return all.toString();
     }
 
     private static void textIs(String text, int... bytes) {
-        ExactLoom x = withBytes(new ExactLoom(), bytes);
-        due("take() of " + joined(bytes), x.take(), text.length());
-        due("length() of " + joined(bytes), x.length(), text.length());
-        due("text of " + joined(bytes), textOf(x), text);
-        due("bytes of " + joined(bytes), bytesOf(x), joined(bytes));
-        due("exact() of " + joined(bytes), x.exact(), true);
+        Loom x = withBytes(new Loom(), bytes);
+        due("take() of " + Loom.joined(bytes), x.take(), text.length());
+        due("length() of " + Loom.joined(bytes), x.length(), text.length());
+        due("text of " + Loom.joined(bytes), x.text(), text);
+        due("bytes of " + Loom.joined(bytes), x.bytes(), Loom.joined(bytes));
+        due("exact() of " + Loom.joined(bytes), x.exact(), true);
     }
 
     private static void bytesFaulty(int at, int... bytes) {
-        ExactLoom x = withText(new ExactLoom(), "block 9 field 8 7");
+        Loom x = withText(new Loom(), "block 9 field 8 7");
         x.make();
         withBytes(x, bytes);
-        due("take() of " + joined(bytes), x.take(), -1 - at);
-        due("the block that stays", bytesOf(x), "77 9 0 1 8 7 0 0");
-        due("the text that stays", textOf(x), "block 9\nfield 8 7\n");
+        due("take() of " + Loom.joined(bytes), x.take(), -1 - at);
+        due("the block that stays", x.bytes(), "77 9 0 1 8 7 0 0");
+        due("the text that stays", x.text(), "block 9\nfield 8 7\n");
         due("none wait: take()", x.take(), -1);
     }
 
     private static void made(String text, int... bytes) {
-        ExactLoom x = withText(new ExactLoom(), text);
+        Loom x = withText(new Loom(), text);
         due("make() of " + text, x.make(), bytes.length);
-        due("bytes of " + text, bytesOf(x), joined(bytes));
+        due("bytes of " + text, x.bytes(), Loom.joined(bytes));
         due("exact() of " + text, x.exact(), true);
         due("nothing is typed: make()", x.make(), -1);
     }
@@ -117,12 +80,12 @@ public final class PromiseTest {
     private static void faulty(String marked) {
         int at = marked.indexOf('~');
         String text = marked.substring(0, at) + marked.substring(at + 1);
-        ExactLoom x = withText(new ExactLoom(), "block 9 field 8 7");
+        Loom x = withText(new Loom(), "block 9 field 8 7");
         x.make();
         withText(x, text);
         due("make() of " + marked, x.make(), -1 - at);
-        due("the block that stays", bytesOf(x), "77 9 0 1 8 7 0 0");
-        due("the text that stays", textOf(x), "block 9\nfield 8 7\n");
+        due("the block that stays", x.bytes(), "77 9 0 1 8 7 0 0");
+        due("the text that stays", x.text(), "block 9\nfield 8 7\n");
         due("nothing is typed: make()", x.make(), -1);
     }
 
@@ -140,7 +103,7 @@ public final class PromiseTest {
     // ---- the face and promise 1
 
     private static void theFace() {
-        promise = "face";
+        CHECKS.about("face");
         due("final", Modifier.isFinal(ExactLoom.class.getModifiers()), true);
         TreeSet<String> seen = new TreeSet<>();
         for (Method m : ExactLoom.class.getDeclaredMethods()) {
@@ -162,33 +125,33 @@ public final class PromiseTest {
     }
 
     private static void newObject() {
-        promise = "1";
-        ExactLoom x = new ExactLoom();
-        due("bytes", bytesOf(x), "77 0 0 0 0 0");
-        due("text", textOf(x), "block 0\n");
+        CHECKS.about("promise 1");
+        Loom x = new Loom();
+        due("bytes", x.bytes(), "77 0 0 0 0 0");
+        due("text", x.text(), "block 0\n");
         due("exact()", x.exact(), true);
         due("no bytes: take()", x.take(), -1);
         due("nothing typed: make()", x.make(), -1);
-        ExactLoom other = new ExactLoom();
+        Loom other = new Loom();
         withBytes(other, 77, 5, 0, 0, 0, 0).take();
-        due("one object's block is not another's", bytesOf(x), "77 0 0 0 0 0");
+        due("one object's block is not another's", x.bytes(), "77 0 0 0 0 0");
     }
 
     // ---- promises 2 and 3
 
     private static void put() {
-        promise = "2";
-        ExactLoom x = new ExactLoom();
+        CHECKS.about("promise 2");
+        Loom x = new Loom();
         due("put(.., 4)", x.put(0x4d000001, 4), true);
         due("put(.., 1)", x.put(0x77777707, 1), true);
         due("put(.., 2)", x.put(0x7777fe00, 2), true);
         due("put(.., 1)", x.put(-256, 1), true);
         due("take()", x.take(), "block 0\nfield 7 254\n".length());
-        due("bytes", bytesOf(x), "77 0 0 1 7 254 0 0");
+        due("bytes", x.bytes(), "77 0 0 1 7 254 0 0");
         due("put(.., 3)", x.put(0x774dff00, 3), true);
         due("put(.., 3)", x.put(0, 3), true);
         due("take()", x.take(), 10);
-        due("bytes", bytesOf(x), "77 255 0 0 0 0");
+        due("bytes", x.bytes(), "77 255 0 0 0 0");
         for (int n : new int[] {0, -1, 5, 8, Integer.MAX_VALUE, Integer.MIN_VALUE}) {
             due("put(0, " + n + ")", x.put(0, n), false);
         }
@@ -209,11 +172,11 @@ public final class PromiseTest {
         due("put refused", x.put(0, 5), false);
         withBytes(x, 0, 0);
         due("a refused put changes nothing", x.take(), 8);
-        due("bytes", bytesOf(x), "77 1 0 0 0 0");
+        due("bytes", x.bytes(), "77 1 0 0 0 0");
     }
 
     private static void take() {
-        promise = "3";
+        CHECKS.about("promise 3");
         textIs("block 0\n", 77, 0, 0, 0, 0, 0);
         textIs("block 255\n", 77, 255, 0, 0, 0, 0);
         textIs("block 1\nint 0\nint -1\nint 2147483647\nint -2147483648\nint 16909060\n",
@@ -245,7 +208,7 @@ public final class PromiseTest {
     }
 
     private static void takeFaults() {
-        promise = "3";
+        CHECKS.about("promise 3");
         bytesFaulty(0);
         bytesFaulty(0, 78);
         bytesFaulty(0, 0, 0, 0, 0, 0, 0);
@@ -284,10 +247,9 @@ public final class PromiseTest {
         bytesFaulty(120, filled(121, 77, 0, 0, 0, 0, 1, 0, 112));
         bytesFaulty(120, filled(121, 77, 0, 0, 0, 0, 1, 0, 113));
         bytesFaulty(120, filled(124, 77, 0, 0, 0, 0, 1, 0, 116));
-        bytesFaulty(120, filled(124, 77, 0, 0, 0, 0, 1, 0, 255));
         bytesFaulty(8, filled(124, 77, 0, 0, 0, 0, 1, 0, 0));
         bytesFaulty(0, filled(124));
-        ExactLoom x = withBytes(new ExactLoom(), 77, 0, 1, 3, 1, 2, 0, 0, 0);
+        Loom x = withBytes(new Loom(), 77, 0, 1, 3, 1, 2, 0, 0, 0);
         withText(x, "block 4").take();
         due("what is typed stays: make()", x.make(), 6);
     }
@@ -295,30 +257,30 @@ public final class PromiseTest {
     // ---- promises 4 and 5
 
     private static void type() {
-        promise = "4";
-        ExactLoom x = new ExactLoom();
+        CHECKS.about("promise 4");
+        Loom x = new Loom();
         due("type(.., 4)", x.type(0x626c6f63, 4), true);
         due("type(.., 1)", x.type(0x0707076b, 1), true);
         due("type(.., 2)", x.type(0xff7f2033, 2), true);
         due("type(.., 3)", x.type(0x00200a20, 3), true);
         due("make()", x.make(), 6);
-        due("bytes", bytesOf(x), "77 3 0 0 0 0");
+        due("bytes", x.bytes(), "77 3 0 0 0 0");
         for (int n : new int[] {0, -1, 5, Integer.MAX_VALUE, Integer.MIN_VALUE}) {
             due("type(.., " + n + ")", x.type(0x20202020, n), false);
         }
         for (int c = 0; c < 256; c++) {
             boolean good = c == 10 || c >= 32 && c <= 126;
-            due("type(" + c + ", 1)", new ExactLoom().type(c, 1), good);
+            due("type(" + c + ", 1)", new Loom().type(c, 1), good);
             for (int place = 0; place < 4; place++) {
                 int word = 0x20202020 ^ ((0x20 ^ c) << (8 * place));
-                due("type(" + word + ", 4)", new ExactLoom().type(word, 4), good);
-                due("type(" + word + ", " + place + ")", new ExactLoom().type(word, place), place != 0);
+                due("type(" + word + ", 4)", new Loom().type(word, 4), good);
+                due("type(" + word + ", " + place + ")", new Loom().type(word, place), place != 0);
             }
         }
         withText(x, "block 5");
         due("a wrong character", x.type(0x20203109, 4), false);
         due("make() after a refusal", x.make(), 6);
-        due("bytes", bytesOf(x), "77 5 0 0 0 0");
+        due("bytes", x.bytes(), "77 5 0 0 0 0");
         withText(x, "block 6" + times(190, " "));
         due("type up to 201", x.type(0x20202020, 4), false);
         due("type up to 200", x.type(0x202020, 3), true);
@@ -329,7 +291,7 @@ public final class PromiseTest {
     }
 
     private static void makeItems() {
-        promise = "5";
+        CHECKS.about("promise 5");
         made("block 0", 77, 0, 0, 0, 0, 0);
         made("\n \nblock\n\n255\n ", 77, 255, 0, 0, 0, 0);
         made("block 1 int 258 int -2", 77, 1, 2, 1, 0, 0, 1, 2, 1, 255, 255, 255, 254, 0, 0, 0);
@@ -347,7 +309,7 @@ public final class PromiseTest {
     }
 
     private static void makeNumbers() {
-        promise = "5";
+        CHECKS.about("promise 5");
         made("block 1 int 2147483647 int -2147483648", 77, 1, 2, 1, 127, 255, 255, 255, 1, 128, 0, 0, 0, 0, 0, 0);
         made("block 1 long 9223372036854775807 long -9223372036854775808",
             77, 1, 2, 4, 127, 255, 255, 255, 255, 255, 255, 255, 4, 128, 0, 0, 0, 0, 0, 0, 0, 0, 0, 0);
@@ -355,8 +317,8 @@ public final class PromiseTest {
             77, 1, 0, 0, 1, 0, 0, 14, 1, 128, 1, 127, 1, 0, 2, 0, 2, 255, 8, 255, 10, 0, 0);
         made("block 1 code 0 0 { jump +32767 zero -32768 jump -1 zero +0 }",
             77, 1, 0, 0, 1, 0, 0, 12, 6, 127, 255, 7, 128, 0, 6, 255, 255, 7, 0, 0, 0);
-        for (String bad : new String[] {"256", "-1", "-0", "00", "01", "+1", "1x", "1:", "1/", "", "x1", "0x1", "1.", "--1", "-",
-            "4294967296", "18446744073709551616", "99999999999999999999999999", "@0", "\"1\"", "a"}) {
+        for (String bad : new String[] {"256", "-1", "-0", "00", "01", "+1", "1x", "1:", "1/", "", "x1", "0x1", "1.",
+            "--1", "-", "4294967296", "18446744073709551616", "99999999999999999999999999", "@0", "\"1\"", "a"}) {
             faulty("block ~" + bad);
             faulty("block 1 pair ~" + bad);
             faulty("block 1 pair 0 ~" + bad);
@@ -369,21 +331,21 @@ public final class PromiseTest {
             faulty("block 1 code 0 0 { call ~" + bad);
             faulty("block 1 code 0 0 { pick ~" + bad);
         }
-        for (String bad : new String[] {"2147483648", "-2147483649", "4294967295", "-0", "00", "+1", "9223372036854775808",
-            "18446744073709551617", "-18446744073709551617", "-01"}) {
+        for (String bad : new String[] {"2147483648", "-2147483649", "4294967295", "-0", "00", "+1",
+            "9223372036854775808", "18446744073709551617", "-18446744073709551617", "-01"}) {
             faulty("block 1 int ~" + bad);
         }
-        for (String bad : new String[] {"9223372036854775808", "-9223372036854775809", "9223372036854775810", "-0", "00",
-            "+1", "18446744073709551617", "-18446744073709551617", "92233720368547758070", "-92233720368547758080",
-            "100000000000000000000", "99999999999999999999999999999999999999999"}) {
+        for (String bad : new String[] {"9223372036854775808", "-9223372036854775809", "9223372036854775810", "-0",
+            "00", "+1", "18446744073709551617", "-18446744073709551617", "92233720368547758070",
+            "-92233720368547758080", "100000000000000000000", "99999999999999999999999999999999999999999"}) {
             faulty("block 1 long ~" + bad);
         }
         for (String bad : new String[] {"128", "-129", "255", "-0", "+0", "+1", "00", "18446744073709551617"}) {
             faulty("block 1 code 0 0 { push ~" + bad);
         }
-        for (String bad : new String[] {"0", "1", "+32768", "-32769", "-0", "+00", "-01", "+01", "+-1", "-+1", "+", "-",
-            "+65536", "+18446744073709551617", "-18446744073709551617", "@", "@-1", "@+1", "@00", "@01", "@x", "@1x",
-            "@@1", "}"}) {
+        for (String bad : new String[] {"0", "1", "+32768", "-32769", "-0", "+00", "-01", "+01", "+-1", "-+1", "+",
+            "-", "+65536", "+18446744073709551617", "-18446744073709551617", "@", "@-1", "@+1", "@00", "@01", "@x",
+            "@1x", "@@1", "}"}) {
             faulty("block 1 code 0 0 { jump ~" + bad + " }");
             faulty("block 1 code 0 0 { zero ~" + bad + " }");
             faulty("block 1 code 0 0 { @0 pick 2 @0 ~" + bad + " }");
@@ -391,23 +353,23 @@ public final class PromiseTest {
     }
 
     private static void makeNames() {
-        promise = "5";
+        CHECKS.about("promise 5");
         made("block 1 name \"!~\" name \"x00\" name \"}\" name \"'\"",
             77, 1, 4, 2, 2, 33, 126, 2, 3, 120, 48, 48, 2, 1, 125, 2, 1, 39, 0, 0, 0);
         made("block 1 name x20 name x22 name x227f", 77, 1, 3, 2, 1, 32, 2, 1, 34, 2, 2, 34, 127, 0, 0, 0);
-        for (String bad : new String[] {"\"", "\"\"", "\"\"\"", "\"a", "a\"", "\"ab", "ab\"", "\"a\"b\"", "\"a\"b", "\"a\"\"", "a", "'a'",
-            "\"a b\"", "\"a\nb\"", "X00", "", "0"}) {
+        for (String bad : new String[] {"\"", "\"\"", "\"\"\"", "\"a", "a\"", "\"ab", "ab\"", "\"a\"b\"", "\"a\"b",
+            "\"a\"\"", "a", "'a'", "\"a b\"", "\"a\nb\"", "X00", "", "0"}) {
             faulty("block 1 name ~" + bad);
         }
     }
 
     private static void makeBytes() {
-        promise = "5";
+        CHECKS.about("promise 5");
         made("block 1 attach 1 x0123456789abcdef", 77, 1, 0, 0, 0, 1, 1, 8, 1, 35, 69, 103, 137, 171, 205, 239);
         made("block 1 code 0 0 { raw x0123456789abcdef }",
             77, 1, 0, 0, 1, 0, 0, 8, 1, 35, 69, 103, 137, 171, 205, 239, 0);
-        for (String bad : new String[] {"x0", "x000", "xA0", "x0A", "x0g", "xg0", "x0/", "x0:", "x0`", "X00", "00", "xx00",
-            "x+1", "\"a\"", "", "}"}) {
+        for (String bad : new String[] {"x0", "x000", "xA0", "x0A", "x0g", "xg0", "x0/", "x0:", "x0`", "X00", "00",
+            "xx00", "x+1", "\"a\"", "", "}"}) {
             faulty("block 1 attach 1 ~" + bad);
             faulty("block 1 code 1 1 { raw ~" + bad);
             if (!bad.equals("\"a\"")) {
@@ -417,7 +379,7 @@ public final class PromiseTest {
     }
 
     private static void makeCodes() {
-        promise = "5";
+        CHECKS.about("promise 5");
         made("block 1 code 0 0 { nop push 1 load 2 add sub dup jump +3 zero -4 call 5 ret pick 1 +6 }",
             77, 1, 0, 0, 1, 0, 0, 21, 0, 1, 1, 2, 2, 3, 4, 5, 6, 0, 3, 7, 255, 252, 8, 5, 9, 10, 1, 0, 6, 0);
         made("block 1 code 0 0 { raw x } code 0 0 { raw x0b } code 0 0 { raw x00 }",
@@ -449,7 +411,7 @@ public final class PromiseTest {
     }
 
     private static void makeLabels() {
-        promise = "5";
+        CHECKS.about("promise 5");
         made("block 1 code 0 0 { @0 jump @0 }", 77, 1, 0, 0, 1, 0, 0, 3, 6, 0, 0, 0);
         made("block 1 code 0 0 { jump @0 @0 }", 77, 1, 0, 0, 1, 0, 0, 3, 6, 0, 3, 0);
         made("block 1 code 0 0 { @0 nop zero @0 }", 77, 1, 0, 0, 1, 0, 0, 4, 0, 7, 255, 255, 0);
@@ -494,7 +456,7 @@ public final class PromiseTest {
     }
 
     private static void makeOrderAndEnds() {
-        promise = "5";
+        CHECKS.about("promise 5");
         faulty("~");
         faulty("  \n ~");
         faulty("~blok 1");
@@ -535,38 +497,39 @@ public final class PromiseTest {
 
     /** Twelve longs bring 108 bytes, so that a block of them has 114 and room for six more. */
     private static void makeRoom() {
-        promise = "5";
+        CHECKS.about("promise 5");
         String full = "block 1 " + times(12, "long 0 ");
-        for (String fits : new String[] {"name \"abcd\"", "name x00000000", "pair 0 0 pair 0 0", "field 0 0 field 0 0 field 0 0", "code 0 0 { nop nop nop }", "code 0 0 { } code 0 0 { }",
+        for (String fits : new String[] {"name \"abcd\"", "name x00000000", "pair 0 0 pair 0 0",
+            "field 0 0 field 0 0 field 0 0", "code 0 0 { nop nop nop }", "code 0 0 { } code 0 0 { }",
             "code 0 0 { jump +0 @0 }", "code 0 0 { pick 0 @0 nop }", "code 0 0 { raw x000000 }", "attach 0 x00000000",
             "attach 0 x attach 0 x attach 0 x", "code 0 0 { push 0 nop }"}) {
-            ExactLoom x = withText(new ExactLoom(), full + fits);
+            Loom x = withText(new Loom(), full + fits);
             due("make() of " + full + fits, x.make(), 120);
             due("size() of " + full + fits, x.size(), 120);
             due("exact() of " + full + fits, x.exact(), true);
         }
-        for (String over : new String[] {"long ~0", "int 0 pair ~0 0", "int 0 name ~x", "name ~\"abcde\"", "name ~x0000000000",
-            "pair 0 0 pair 0 0 ~int 0", "pair 0 0 pair 0 0 ~name x", "pair 0 0 pair 0 0 ~pair 0 0",
-            "pair 0 0 pair 0 0 ~long 0", "pair 0 0 pair 0 0 field ~0 0", "pair 0 0 pair 0 0 code ~0 0 {",
-            "pair 0 0 pair 0 0 attach ~0 x", "int 0 field 0 ~0", "int 0 attach 0 ~x", "int 0 code 0 ~0 {",
-            "pair 0 0 field 0 0 attach 0 ~x", "attach 0 ~x0000000000", "code 0 0 { raw ~x00000000 }",
-            "code 0 0 { nop nop nop ~nop }", "code 0 0 { nop nop nop @0 ~nop }", "code 0 0 { nop nop nop @0 ~jump @0 }",
-            "code 0 0 { nop nop push ~0 }", "code 0 0 { nop jump ~+0 }", "code 0 0 { @0 nop jump ~@0 }",
-            "code 0 0 { nop nop load ~0 }", "code 0 0 { nop nop call ~0 }", "code 0 0 { nop nop pick ~0 }",
-            "code 0 0 { pick 255 ~+0 }", "code 0 0 { pick 1 ~@0 @0 }", "field 0 0 field 0 0 code 0 0 ~{ }",
-            "code 0 0 { nop } code 0 0 ~{ }"}) {
+        for (String over : new String[] {"long ~0", "int 0 pair ~0 0", "int 0 name ~x", "name ~\"abcde\"",
+            "name ~x0000000000", "pair 0 0 pair 0 0 ~int 0", "pair 0 0 pair 0 0 ~name x",
+            "pair 0 0 pair 0 0 ~pair 0 0", "pair 0 0 pair 0 0 ~long 0", "pair 0 0 pair 0 0 field ~0 0",
+            "pair 0 0 pair 0 0 code ~0 0 {", "pair 0 0 pair 0 0 attach ~0 x", "int 0 field 0 ~0", "int 0 attach 0 ~x",
+            "int 0 code 0 ~0 {", "pair 0 0 field 0 0 attach 0 ~x", "attach 0 ~x0000000000",
+            "code 0 0 { raw ~x00000000 }", "code 0 0 { nop nop nop ~nop }", "code 0 0 { nop nop nop @0 ~nop }",
+            "code 0 0 { nop nop nop @0 ~jump @0 }", "code 0 0 { nop nop push ~0 }", "code 0 0 { nop jump ~+0 }",
+            "code 0 0 { @0 nop jump ~@0 }", "code 0 0 { nop nop load ~0 }", "code 0 0 { nop nop call ~0 }",
+            "code 0 0 { nop nop pick ~0 }", "code 0 0 { pick 255 ~+0 }", "code 0 0 { pick 1 ~@0 @0 }",
+            "field 0 0 field 0 0 code 0 0 ~{ }", "code 0 0 { nop } code 0 0 ~{ }"}) {
             faulty(full + over);
         }
         faulty("block 1 name ~\"" + times(150, "a") + "\"");
         faulty("block 1 name ~\"" + times(113, "a") + "\"");
-        ExactLoom x = withText(new ExactLoom(), "block 1 name \"" + times(112, "a") + "\"");
+        Loom x = withText(new Loom(), "block 1 name \"" + times(112, "a") + "\"");
         due("make() of a long name", x.make(), 120);
         faulty("block 1 name \"" + times(112, "a") + "\" ~pair 1 2");
     }
 
     private static void makeState() {
-        promise = "5";
-        ExactLoom x = withBytes(new ExactLoom(), 77, 8, 0, 0, 0);
+        CHECKS.about("promise 5");
+        Loom x = withBytes(new Loom(), 77, 8, 0, 0, 0);
         withText(x, "block 4").make();
         withBytes(x, 0);
         due("the bytes that wait stay: take()", x.take(), 8);
@@ -580,14 +543,14 @@ public final class PromiseTest {
         due("make()", x.make(), -27);
         withText(x, "block 1 code 0 0 { nop }");
         due("make()", x.make(), 10);
-        due("bytes", bytesOf(x), "77 1 0 0 1 0 0 1 0 0");
+        due("bytes", x.bytes(), "77 1 0 0 1 0 0 1 0 0");
     }
 
     // ---- promises 6 to 9
 
     private static void sizeAndByteAt() {
-        promise = "6 and 7";
-        ExactLoom x = new ExactLoom();
+        CHECKS.about("promises 6 and 7");
+        Loom x = new Loom();
         due("size()", x.size(), 6);
         withText(x, "block 200 field 128 255").make();
         due("size()", x.size(), 8);
@@ -612,8 +575,8 @@ public final class PromiseTest {
     }
 
     private static void lengthAndAt() {
-        promise = "8 and 9";
-        ExactLoom x = new ExactLoom();
+        CHECKS.about("promises 8 and 9");
+        Loom x = new Loom();
         due("length()", x.length(), 8);
         due("at(0)", x.at(0), 98);
         due("at(5)", x.at(5), 32);
@@ -621,19 +584,19 @@ public final class PromiseTest {
         due("at(8)", x.at(8), -1);
         due("at(-1)", x.at(-1), -1);
         withText(x, " block\n\n7  field 1\n2 attach 3 x  \n").make();
-        due("text", textOf(x), "block 7\nfield 1 2\nattach 3 x\n");
+        due("text", x.text(), "block 7\nfield 1 2\nattach 3 x\n");
         due("length()", x.length(), 29);
         withText(x, "block 7 name x6162 name x61 name x20 name x").make();
-        due("names that may be plain are", textOf(x), "block 7\nname \"ab\"\nname \"a\"\nname x20\nname x\n");
+        due("names that may be plain are", x.text(), "block 7\nname \"ab\"\nname \"a\"\nname x20\nname x\n");
         withText(x, "block 0").make();
         due("length() of a shorter text", x.length(), 8);
         due("at(8) of a shorter text", x.at(8), -1);
     }
 
     private static void textOfCodes() {
-        promise = "8 and 9";
-        textIs("block 0\ncode 1 2 {\nnop\npush 1\npush -1\npush 127\npush -128\nload 255\nadd\nsub\ndup\ncall 200\nret\n"
-            + "pick 0\n}\n",
+        CHECKS.about("promises 8 and 9");
+        textIs("block 0\ncode 1 2 {\nnop\npush 1\npush -1\npush 127\npush -128\nload 255\nadd\nsub\ndup\ncall 200\n"
+            + "ret\npick 0\n}\n",
             77, 0, 0, 0, 1, 1, 2, 19, 0, 1, 1, 1, 255, 1, 127, 1, 128, 2, 255, 3, 4, 5, 8, 200, 9, 10, 0, 0);
         textIs("block 0\ncode 0 0 {\n@0\njump @0\n}\n", 77, 0, 0, 0, 1, 0, 0, 3, 6, 0, 0, 0);
         textIs("block 0\ncode 0 0 {\njump +3\n}\n", 77, 0, 0, 0, 1, 0, 0, 3, 6, 0, 3, 0);
@@ -659,16 +622,16 @@ public final class PromiseTest {
             many.append("@").append(i).append("\njump @").append(i).append("\n");
         }
         textIs(many + "}\n", jumps);
-        ExactLoom x = withText(new ExactLoom(), "block 0 code 1 1 { raw x060000 } code 1 1 { @0 @1 nop zero -1 @2 jump +3 @3 }");
+        Loom x = withText(new Loom(), "block 0 code 1 1 { raw x060000 } code 1 1 { @0 @1 nop zero -1 @2 jump +3 @3 }");
         due("make()", x.make(), 22);
-        due("text", textOf(x), "block 0\ncode 1 1 {\n@0\njump @0\n}\ncode 1 1 {\n@0\nnop\nzero @0\njump +3\n}\n");
+        due("text", x.text(), "block 0\ncode 1 1 {\n@0\njump @0\n}\ncode 1 1 {\n@0\nnop\nzero @0\njump +3\n}\n");
     }
 
     // ---- promises 10 to 12
 
     private static void count() {
-        promise = "10";
-        ExactLoom x = new ExactLoom();
+        CHECKS.about("promise 10");
+        Loom x = new Loom();
         for (int part = 0; part < 4; part++) {
             due("count(" + part + ")", x.count(part), 0);
         }
@@ -697,15 +660,15 @@ public final class PromiseTest {
     private static void clearIs(int want, int... code) {
         int[] bytes = filled(8 + code.length + 1, 77, 0, 0, 0, 1, 1, 1, code.length);
         System.arraycopy(code, 0, bytes, 8, code.length);
-        ExactLoom x = withBytes(new ExactLoom(), bytes);
-        due("take() of the code " + joined(code), x.take() > 0, true);
-        due("clear(0) of the code " + joined(code), x.clear(0), want);
-        due("exact() of the code " + joined(code), x.exact(), true);
+        Loom x = withBytes(new Loom(), bytes);
+        due("take() of the code " + Loom.joined(code), x.take() > 0, true);
+        due("clear(0) of the code " + Loom.joined(code), x.clear(0), want);
+        due("exact() of the code " + Loom.joined(code), x.exact(), true);
     }
 
     private static void clear() {
-        promise = "11";
-        due("clear(0)", new ExactLoom().clear(0), -1);
+        CHECKS.about("promise 11");
+        due("clear(0)", new Loom().clear(0), -1);
         clearIs(1);
         for (int b = 0; b < 256; b++) {
             clearIs(b == 0 || b == 3 || b == 4 || b == 5 || b == 9 ? 1 : 0, b);
@@ -723,7 +686,7 @@ public final class PromiseTest {
         clearIs(0, 9, 11);
         clearIs(1, 1, 11);
         clearIs(0, 6, 0);
-        ExactLoom x = withText(new ExactLoom(), "block 0 code 1 1 { nop } code 1 1 { raw x01 } code 1 1 { raw x0101 }");
+        Loom x = withText(new Loom(), "block 0 code 1 1 { nop } code 1 1 { raw x01 } code 1 1 { raw x0101 }");
         x.make();
         due("clear(0)", x.clear(0), 1);
         due("clear(1)", x.clear(1), 0);
@@ -737,8 +700,8 @@ public final class PromiseTest {
     }
 
     private static void exact() {
-        promise = "12";
-        ExactLoom x = new ExactLoom();
+        CHECKS.about("promise 12");
+        Loom x = new Loom();
         due("exact()", x.exact(), true);
         withText(x, "block 3 name \"a\" code 1 1 { nop");
         withBytes(x, 77, 3);
@@ -746,14 +709,14 @@ public final class PromiseTest {
         due("what is typed stays: make()", x.make(), -32);
         withBytes(x, 0, 0, 0, 0);
         due("what waits stays: take()", x.take(), 8);
-        due("bytes", bytesOf(x), "77 3 0 0 0 0");
+        due("bytes", x.bytes(), "77 3 0 0 0 0");
         due("exact()", x.exact(), true);
-        due("text", textOf(x), "block 3\n");
+        due("text", x.text(), "block 3\n");
     }
 
     private static void oddArguments() {
-        promise = "7, 9, 11";
-        ExactLoom x = withText(new ExactLoom(), "block 0 code 0 0 { nop }");
+        CHECKS.about("promises 7, 9, 11");
+        Loom x = withText(new Loom(), "block 0 code 0 0 { nop }");
         x.make();
         for (int odd : new int[] {-1, -2, 4096, Integer.MAX_VALUE, Integer.MIN_VALUE}) {
             due("byteAt(" + odd + ")", x.byteAt(odd), -1);
