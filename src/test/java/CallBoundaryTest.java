@@ -1,3 +1,4 @@
+import java.util.function.Predicate;
 import java.util.stream.IntStream;
 
 /**
@@ -18,6 +19,7 @@ public final class CallBoundaryTest extends BoundaryCases {
         count();
         clear();
         exact();
+        refused();
         CHECKS.end();
     }
 
@@ -414,5 +416,44 @@ public final class CallBoundaryTest extends BoundaryCases {
         due("make()", y.make(), -9);
         due("exact()", y.exact(), true);
         hasOldBlock("exact()", y);
+    }
+
+    private static void refused() {
+        CHECKS.about("A call that is refused changes nothing");
+        for (int n : WRONG_N) {
+            refusedAmongOthers(x -> x.put(0x4d4d4d4d, n) || x.type(0x62626262, n));
+        }
+        for (int c : new int[] {0, 9, 11, 13, 31, 127, 128, 255}) {
+            refusedAmongOthers(x -> x.type(c, 1) || x.type(c << 8 | 32, 2) || x.type(c << 24 | 0x202020, 4));
+        }
+        for (int i : FAR) {
+            refusedAmongOthers(x -> x.byteAt(i) != -1 || x.at(i) != -1 || x.count(i) != -1 || x.clear(i) != -1);
+        }
+        Loom x = withOldBlock();
+        due("put of 124", x.putAll(joined(row(77, 0, 0, 0, 0, 0), times(118, 1))), true);
+        due("type of 200", x.typeAll("block 44" + " ".repeat(192)), true);
+        for (int n = 1; n <= 4; n++) {
+            due("put of too many", x.put(0x4d4d4d4d, n), false);
+            due("type of too many", x.type(0x31313131, n), false);
+            hasOldBlock("too many", x);
+        }
+        due("take() of 124", x.take(), -7);
+        due("make() of 200", x.make(), 6);
+        blockIs("make() of 200", x, "block 44\n", 77, 44, 0, 0, 0, 0);
+    }
+
+    /** Tries a call while some bytes wait and something is typed; the call answers whether anything was taken. */
+    private static void refusedAmongOthers(Predicate<Loom> call) {
+        Loom x = withOldBlock();
+        due("put of some", x.putAll(77, 43, 0), true);
+        due("type of some", x.typeAll("block 4"), true);
+        due("whether it was taken", call.test(x), false);
+        hasOldBlock("refused", x);
+        due("put of the rest", x.putAll(0, 0, 0), true);
+        due("type of the rest", x.typeAll("4"), true);
+        due("take()", x.take(), 9);
+        blockIs("take()", x, "block 43\n", 77, 43, 0, 0, 0, 0);
+        due("make()", x.make(), 6);
+        blockIs("make()", x, "block 44\n", 77, 44, 0, 0, 0, 0);
     }
 }
