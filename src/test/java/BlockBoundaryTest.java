@@ -298,6 +298,17 @@ public final class BlockBoundaryTest extends BoundaryCases {
         codeTaken("pick 3 +2 +7 @0\n@0\nret\n", 10, 3, 0, 2, 0, 7, 0, 8, 9);
         codeTaken("@0\nnop\npick 2 @0 -2\n", 0, 10, 2, 255, 255, 255, 254);
         codeTaken("jump +256\njump -256\n", 6, 1, 0, 6, 255, 0);
+        // Bytes that would be a jump, zero or pick to some instruction, but are none of their code.
+        codeTaken("push 6\nnop\npush 9\n", 1, 6, 0, 1, 9);
+        codeTaken("load 7\nnop\npush 9\n", 2, 7, 0, 1, 9);
+        codeTaken("call 10\npush 0\npush 9\n", 8, 10, 1, 0, 1, 9);
+        codeTaken("jump +1536\nload 9\n", 6, 6, 0, 2, 9);
+        codeTaken("pick 1 +7\npush 9\n", 10, 1, 0, 7, 1, 9);
+        codeTaken("raw x0006ffffff\n", 0, 6, 255, 255, 255);
+        taken("block 0\ncode 1 1 {\nnop\nnop\n}\ncode 10 2 {\nraw x0bfffe\n}\n",
+            77, 0, 0, 0, 2, 1, 1, 2, 0, 0, 10, 2, 3, 11, 255, 254, 0);
+        taken("block 0\ncode 1 1 {\n" + "nop\n".repeat(80) + "}\nattach 1 xff\n",
+            joined(row(77, 0, 0, 0, 1, 1, 1, 80), times(80, 0), row(1, 1, 1, 255)));
         codeTaken("@0\nret\nzero @0\n" + "nop\n".repeat(107), joined(row(9, 7, 255, 255), times(107, 0)));
         codeTaken("jump @0\n" + "nop\n".repeat(107) + "@0\nret\n", joined(row(6, 0, 110), times(107, 0), row(9)));
         codeTaken("jump +111\n" + "nop\n".repeat(108), joined(row(6, 0, 111), times(108, 0)));

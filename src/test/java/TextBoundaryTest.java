@@ -390,7 +390,7 @@ public final class TextBoundaryTest extends BoundaryCases {
         for (int i = 0; i < words.length; i++) {
             if (words[i].equals("|")) {
                 Loom x = withOldBlock();
-                due("type", x.typeAll(text.toString()), true);
+                due("type", x.typeAll(" ".repeat(200 - text.length()) + text), true);
                 due("make() of " + text, x.make() > 0, true);
                 continue;
             }
@@ -399,7 +399,16 @@ public final class TextBoundaryTest extends BoundaryCases {
                 notMade(text + "~");
                 notMade(text + " ~");
                 notMade(text + "\n \n~");
+                notMade(" ".repeat(200 - text.length()) + text + "~");
+                notMade(text + " ".repeat(200 - text.length()) + "~");
             }
+        }
+        for (String early : new String[] {"", "block", "block 1 int", "block 1 name", "block 1 long", "block 1 pair 1",
+            "block 1 field 1", "block 1 attach 1", "block 1 code 1 1", "block 1 code 1 1 {", "block 1 code 1 1 { @0",
+            "block 1 code 1 1 { raw", "block 1 code 1 1 { jump", "block 1 code 1 1 { push",
+            "block 1 code 1 1 { pick"}) {
+            notMade(early + "~");
+            notMade(" ".repeat(200 - early.length()) + early + "~");
         }
         notMade("block 1 code 1 1 { jump @5~");
         notMade("block 1 code 1 1 { jump @5 ~");
