@@ -30,6 +30,7 @@ public final class PromiseTest {
         clear();
         exact();
         oddArguments();
+        theExampleOfTheReadme();
         CHECKS.end();
     }
 
@@ -723,5 +724,22 @@ public final class PromiseTest {
             due("at(" + odd + ")", x.at(odd), -1);
             due("clear(" + odd + ")", x.clear(odd), -1);
         }
+    }
+
+    private static void theExampleOfTheReadme() {
+        CHECKS.about("the example of README.md");
+        ExactLoom loom = new ExactLoom();
+        due("put", loom.put(0x4d030001, 4), true);
+        due("put", loom.put(0x05ff0000, 4), true);
+        due("take()", loom.take(), 20);
+        due("at(0)", loom.at(0), (int) 'b');
+        for (char c : "block 7 code 1 2 { @0 nop jump @0 }".toCharArray()) {
+            due("type", loom.type(c, 1), true);
+        }
+        due("make()", loom.make(), 13);
+        due("byteAt(1)", loom.byteAt(1), 7);
+        due("count(2)", loom.count(2), 1);
+        due("clear(0)", loom.clear(0), 1);
+        due("exact()", loom.exact(), true);
     }
 }
